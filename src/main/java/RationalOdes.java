@@ -273,7 +273,7 @@ public final class RationalOdes {
         return number(sum);
     }
 
-    /** The term that makes 0 of the power next - order, the first one to which it gives something. */
+    /** The number at next with which 0 is made at next - order; none behind it matters there. */
     private long nextTerm(int next) {
         int power = next - order;
         long sum = 0;
@@ -384,7 +384,7 @@ public final class RationalOdes {
             }
             copy(polynomial, whole);
             makeMonic(whole);
-            keepSimpleRoots();
+            keepRootsOnce();
             for (int left = degree(whole); left > 0; left--) {
                 long root = oneRoot();
                 insert(root);
@@ -392,16 +392,16 @@ public final class RationalOdes {
             }
         }
 
-        /** x^MODULUS - x has each NUMBER as a root once, so what is common to both has them all. */
-        private void keepSimpleRoots() {
+        /** x^MODULUS - x has each NUMBER as a root once, so both have all roots in common, once. */
+        private void keepRootsOnce() {
             raise(0, MODULUS, whole);
             raised[1] = number(raised[1] - 1);
             copy(commonWithRaised(whole), whole);
         }
 
         /**
-         * (x + by)^HALF is 1 at the roots s for which s + by is a square but 0. For any two roots some by
-         * tells them apart, so the part comes down to one root before all by are used.
+         * (x + by)^HALF is 1 at those roots s for which s + by is a square and not 0. For any two
+         * roots some by tells them apart, so the part comes down to one root before all are used.
          */
         private long oneRoot() {
             copy(whole, part);
@@ -550,8 +550,8 @@ public final class RationalOdes {
         }
 
         /**
-         * Lower powers lead first: so a power that leads no row is the highest in a solution of
-         * which all other powers lead rows, as the BASE asks.
+         * Lower powers lead first, so that a power without a row of its own is the highest of a
+         * solution in which every other power has one: that is what the BASE asks for.
          */
         private void reduceRows() {
             int used = 0;
@@ -579,9 +579,11 @@ public final class RationalOdes {
         }
 
         private void swap(int row, int with) {
-            long[] kept = rows[row];
-            rows[row] = rows[with];
-            rows[with] = kept;
+            for (int k = 0; k < HAND_POWERS; k++) {
+                long kept = rows[row][k];
+                rows[row][k] = rows[with][k];
+                rows[with][k] = kept;
+            }
         }
 
         private void scaleRow(int row, int power) {

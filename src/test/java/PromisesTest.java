@@ -273,6 +273,10 @@ public final class PromisesTest {
             CHECK.index("12: answer(" + k + ", 0)", () -> x.answer(k, 0));
             CHECK.index("14: take(" + k + ")", () -> done(() -> x.take(k)));
         }
+        RationalOdes fourth = legendre(4);
+        CHECK.due("12: x^4 - 6/7 x^2 + 3/35, at 4", 1, () -> fourth.answer(0, 4));
+        CHECK.due("12: x^4 - 6/7 x^2 + 3/35, at 2", 31997, () -> fourth.answer(0, 2) * 7 % 32003);
+        CHECK.due("12: x^4 - 6/7 x^2 + 3/35, at 0", 3, () -> fourth.answer(0, 0) * 35 % 32003);
         RationalOdes two = euler();
         two.move(1);
         int[][] want = {{32002, 0, 1}, {1, 1, 0}};
@@ -366,7 +370,9 @@ public final class PromisesTest {
 
     private static void turn() {
         RationalOdes x = euler();
+        CHECK.due("16: before, answers", 2, () -> x.answers());
         x.turn();
+        CHECK.due("16: after, answers", 1, () -> x.answers());
         int[] want = {12, 0, 31997, 32002};
         for (int i = 0; i <= 3; i++) {
             int at = i;
