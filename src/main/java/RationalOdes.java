@@ -235,7 +235,6 @@ public final class RationalOdes {
         long first = otherAt(1, reached + 1);
         long second = otherAt(2, reached + 2);
         long third = otherAt(3, reached + 3);
-        Arrays.fill(indicial, 0);
         indicial[0] = otherAt(0, reached);
         indicial[1] = number(first - second + 2 * third);
         indicial[2] = number(second - 3 * third);

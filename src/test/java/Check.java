@@ -1,7 +1,26 @@
 /** Counts what is as due and prints what isn't. */
 final class Check {
+    private static final long MOST_SECONDS = 300;
     private int passed = 0;
     private int failed = 0;
+
+    /** A call that does not end is a fault too, and must not keep the whole run waiting. */
+    Check() {
+        Thread watch = new Thread(Check::giveUp);
+        watch.setDaemon(true);
+        watch.start();
+    }
+
+    private static void giveUp() {
+        try {
+            Thread.sleep(MOST_SECONDS * 1000);
+        } catch (InterruptedException e) {
+            return;
+        }
+        System.out.println("not at its end behind " + MOST_SECONDS + " seconds");
+        System.out.flush();
+        Runtime.getRuntime().halt(1);
+    }
 
     interface Call {
         Object answer();

@@ -7,8 +7,11 @@ public final class PlainTest {
         0, 1, -1, 2, 32002, 32003, 32004, -32003, 16001, 16002,
         Long.MAX_VALUE, Long.MIN_VALUE, Integer.MAX_VALUE, Integer.MIN_VALUE, 1L << 40
     };
+    /** What an object answers behind so many calls is free. */
+    private static final int MOST_CALLS = 512;
     private final Check check = new Check();
     private RationalOdes real;
+    private int calls;
     private Plain plain;
     private String run;
 
@@ -24,6 +27,12 @@ public final class PlainTest {
             }
             seeAll();
         }
+        for (int n = 0; n < 48; n++) {
+            start(n);
+            while (calls < MOST_CALLS) {
+                step();
+            }
+        }
         check.end();
     }
 
@@ -32,6 +41,7 @@ public final class PlainTest {
         run = "run " + n + ", order " + r + ": ";
         real = new RationalOdes(r);
         plain = new Plain(r);
+        calls = 0;
         if (n % 4 == 0) {
             fillAll();
         } else if (n % 4 == 1) {
@@ -58,8 +68,8 @@ public final class PlainTest {
     }
 
     private void put(int i, int power, long v) {
-        String want = Check.told(() -> plain.put(i, power, v));
-        check.due(run + "put(" + i + ", " + power + ", " + v + ")", want, () -> real.put(i, power, v));
+        compare("put(" + i + ", " + power + ", " + v + ")",
+            () -> plain.put(i, power, v), () -> real.put(i, power, v));
     }
 
     private void fillAll() {
@@ -104,6 +114,7 @@ public final class PlainTest {
     }
 
     private void compare(String call, Check.Call want, Check.Call got) {
+        calls++;
         check.due(run + call, Check.told(want), got);
     }
 
@@ -128,16 +139,19 @@ public final class PlainTest {
     private void clear() {
         plain.clear();
         real.clear();
+        calls++;
     }
 
     private void turn() {
         plain.turn();
         real.turn();
+        calls++;
     }
 
     private void move(long by) {
         plain.move(by);
         real.move(by);
+        calls++;
     }
 
     private static Object done(Runnable call) {

@@ -27,26 +27,6 @@ public final class PromisesTest {
         return "done";
     }
 
-    /** (1 - x^2) y'' - 2 x y' + n (n + 1) y. */
-    private static RationalOdes legendre(int n) {
-        RationalOdes x = new RationalOdes(2);
-        x.put(2, 0, 1);
-        x.put(2, 2, -1);
-        x.put(1, 1, -2);
-        x.put(0, 0, n * (n + 1));
-        return x;
-    }
-
-    /** x^3 y''' + 3 x^2 y'' - 6 x y' + 6 y, with the exponents 1, 2, -3 at 0. */
-    private static RationalOdes euler() {
-        RationalOdes x = new RationalOdes(3);
-        x.put(3, 3, 1);
-        x.put(2, 2, 3);
-        x.put(1, 1, -6);
-        x.put(0, 0, 6);
-        return x;
-    }
-
     private static void newObject() {
         int[] given = {Integer.MIN_VALUE, -1, 0, 1, 2, 3, 4, Integer.MAX_VALUE};
         int[] orders = {1, 1, 1, 1, 2, 3, 3, 3};
@@ -121,7 +101,7 @@ public final class PromisesTest {
     }
 
     private static void places() {
-        RationalOdes x = legendre(2);
+        RationalOdes x = Equations.legendre(2);
         CHECK.due("6: two", 2, () -> x.places());
         CHECK.due("7: the lower", 1, () -> x.place(0));
         CHECK.due("7: the higher", 32002, () -> x.place(1));
@@ -155,7 +135,7 @@ public final class PromisesTest {
     }
 
     private static void level() {
-        RationalOdes x = legendre(2);
+        RationalOdes x = Equations.legendre(2);
         CHECK.due("8: at 0", -2, () -> x.level(false, 0));
         CHECK.due("8: at 1", -1, () -> x.level(false, 1));
         CHECK.due("8: at -1", -1, () -> x.level(false, -1));
@@ -177,7 +157,7 @@ public final class PromisesTest {
     }
 
     private static void regular() {
-        RationalOdes x = legendre(2);
+        RationalOdes x = Equations.legendre(2);
         CHECK.due("9: at 0", true, () -> x.regular(false, 0));
         CHECK.due("9: at 1", true, () -> x.regular(false, 1));
         CHECK.due("9: without end", true, () -> x.regular(true, 7));
@@ -210,13 +190,13 @@ public final class PromisesTest {
     }
 
     private static void exponent() {
-        exponents("Legendre at 0", legendre(2), false, 0, 0, 1);
-        exponents("Legendre at 1, twice", legendre(2), false, 1, 0);
-        exponents("Legendre at -1", legendre(2), false, -1, 0);
-        exponents("Legendre without end", legendre(2), true, 1, 2, 32000);
-        exponents("Euler at 0", euler(), false, 0, 1, 2, 32000);
-        exponents("Euler at 1", euler(), false, 1, 0, 1, 2);
-        exponents("Euler without end", euler(), true, 0, 1, 2, 32000);
+        exponents("Legendre at 0", Equations.legendre(2), false, 0, 0, 1);
+        exponents("Legendre at 1, twice", Equations.legendre(2), false, 1, 0);
+        exponents("Legendre at -1", Equations.legendre(2), false, -1, 0);
+        exponents("Legendre without end", Equations.legendre(2), true, 1, 2, 32000);
+        exponents("Euler at 0", Equations.euler(), false, 0, 1, 2, 32000);
+        exponents("Euler at 1", Equations.euler(), false, 1, 0, 1, 2);
+        exponents("Euler without end", Equations.euler(), true, 0, 1, 2, 32000);
         RationalOdes half = new RationalOdes(1);
         half.put(1, 1, 2);
         half.put(0, 0, -1);
@@ -238,11 +218,11 @@ public final class PromisesTest {
     private static void answers() {
         CHECK.due("11: all", 13, () -> new RationalOdes(2).answers());
         for (int n = 0; n <= 12; n++) {
-            RationalOdes x = legendre(n);
+            RationalOdes x = Equations.legendre(n);
             CHECK.due("11: Legendre " + n, 1, () -> x.answers());
         }
-        CHECK.due("11: Legendre 13 is beyond", 0, () -> legendre(13).answers());
-        CHECK.due("11: Euler", 2, () -> euler().answers());
+        CHECK.due("11: Legendre 13 is beyond", 0, () -> Equations.legendre(13).answers());
+        CHECK.due("11: Euler", 2, () -> Equations.euler().answers());
         RationalOdes x = new RationalOdes(3);
         x.put(3, 0, 1);
         CHECK.due("11: y''' alone", 3, () -> x.answers());
@@ -260,7 +240,7 @@ public final class PromisesTest {
     }
 
     private static void answerAndTake() {
-        RationalOdes x = legendre(2);
+        RationalOdes x = Equations.legendre(2);
         CHECK.due("12: -1/3", 21335, () -> x.answer(0, 0));
         CHECK.due("12: 0", 0, () -> x.answer(0, 1));
         CHECK.due("12: 1 at the highest", 1, () -> x.answer(0, 2));
@@ -273,11 +253,11 @@ public final class PromisesTest {
             CHECK.index("12: answer(" + k + ", 0)", () -> x.answer(k, 0));
             CHECK.index("14: take(" + k + ")", () -> done(() -> x.take(k)));
         }
-        RationalOdes fourth = legendre(4);
+        RationalOdes fourth = Equations.legendre(4);
         CHECK.due("12: x^4 - 6/7 x^2 + 3/35, at 4", 1, () -> fourth.answer(0, 4));
         CHECK.due("12: x^4 - 6/7 x^2 + 3/35, at 2", 31997, () -> fourth.answer(0, 2) * 7 % 32003);
         CHECK.due("12: x^4 - 6/7 x^2 + 3/35, at 0", 3, () -> fourth.answer(0, 0) * 35 % 32003);
-        RationalOdes two = euler();
+        RationalOdes two = Equations.euler();
         two.move(1);
         int[][] want = {{32002, 0, 1}, {1, 1, 0}};
         for (int k = 0; k < 2; k++) {
@@ -316,7 +296,7 @@ public final class PromisesTest {
     }
 
     private static void solves() {
-        RationalOdes x = legendre(2);
+        RationalOdes x = Equations.legendre(2);
         CHECK.due("13: 0", true, () -> x.solves());
         x.hand(2, 3);
         CHECK.due("13: 3 x^2", false, () -> x.solves());
@@ -353,7 +333,7 @@ public final class PromisesTest {
         CHECK.due("15: d", 5, () -> third.series(9, -1, 5 - 32003L * 1000000L, 6, 1));
         CHECK.due("15: e", 6, () -> third.series(9, -1, 5, 6, 2));
         CHECK.due("15: y''' = 0", 0, () -> third.series(9, -1, 5, 6, 3));
-        RationalOdes second = legendre(2);
+        RationalOdes second = Equations.legendre(2);
         CHECK.due("15: e is not for order 2", 0, () -> second.series(0, -1, 0, 55, 4));
         CHECK.due("15: 3 x^2 - 1 from -1, 0", 3, () -> second.series(0, -1, 0, 55, 2));
         CHECK.due("15: 3 (t + 2)^2 - 1 at 2", 3, () -> second.series(2, 11, 12, 0, 2));
@@ -369,7 +349,7 @@ public final class PromisesTest {
     }
 
     private static void turn() {
-        RationalOdes x = euler();
+        RationalOdes x = Equations.euler();
         CHECK.due("16: before, answers", 2, () -> x.answers());
         x.turn();
         CHECK.due("16: after, answers", 1, () -> x.answers());
@@ -410,7 +390,7 @@ public final class PromisesTest {
     }
 
     private static void move() {
-        RationalOdes x = legendre(2);
+        RationalOdes x = Equations.legendre(2);
         x.hand(1, 1);
         x.move(3);
         int[] highest = {31995, 31997, 32002, 0, 0};
@@ -441,7 +421,7 @@ public final class PromisesTest {
     }
 
     private static void clear() {
-        RationalOdes x = euler();
+        RationalOdes x = Equations.euler();
         x.hand(4, 9);
         CHECK.due("18: before", false, () -> x.solves());
         CHECK.due("18: before, answers", 2, () -> x.answers());
@@ -462,7 +442,7 @@ public final class PromisesTest {
 
     /** Calls that throw, and calls that only ask, leave everything as it was. */
     private static void nothingChanges() {
-        RationalOdes x = legendre(2);
+        RationalOdes x = Equations.legendre(2);
         x.hand(1, 1);
         CHECK.index("put", () -> x.put(2, 5, 9));
         CHECK.index("hand", () -> done(() -> x.hand(13, 9)));

@@ -44,14 +44,13 @@ public final class RootsTest {
 
     /** x^2 - v has two roots, one or none, for half of all v each but for 0. */
     private void allSquareRoots() {
-        RationalOdes x = new RationalOdes(1);
         boolean[] square = new boolean[32003];
         for (long s = 0; s < 32003; s++) {
             square[(int) (s * s % 32003)] = true;
         }
-        x.put(1, 2, 1);
         for (int v = 0; v < 32003; v++) {
-            x.put(1, 0, -v);
+            RationalOdes x = new RationalOdes(1);
+            Equations.factor(x, 1, -v, 0, 1);
             int want = v == 0 ? 1 : square[v] ? 2 : 0;
             check.due("places of x^2 - " + v, want, () -> x.places());
             if (want == 2) {
